@@ -44,6 +44,7 @@ public final class AsksTest {
         DUE.is("kind", x.kind(1), 2);
         x.bread(2, 4);
         DUE.is("restore again", x.restore(0), 1);
+        DUE.is("no act can be undone then", x.undo(), STATE);
         DUE.is("what is done does not reach the image", x.lawn(2, 0), 0);
         DUE.is("restore the other", x.restore(1), 1);
         DUE.is("DAY", x.count(3), 5);

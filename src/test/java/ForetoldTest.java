@@ -99,6 +99,7 @@ public final class ForetoldTest {
         DUE.is("stays", x.stays(0, 0, 5), 3);
         DUE.is("now does not count", x.stays(0, 3, 5), 0);
         DUE.is("stays", x.stays(0, 2, 60), 1);
+        DUE.is("stays one day", x.stays(0, 2, 1), 1);
         DUE.is("stays", x.stays(0, 0, 60), 58);
         DUE.is("n 0", x.stays(0, 0, 0), BAD);
         DUE.is("n 61", x.stays(0, 0, 61), BAD);
@@ -214,6 +215,8 @@ public final class ForetoldTest {
         DUE.is("doubles", x.doubles(0), 4);
         DUE.is("first", x.doubles(1), 2);
         DUE.is("first", Due.told("r3,0;p0,0,1;p0,1,1;p0,2,1;p0,2,1;p0,1,1;").doubles(1), 14);
+        DUE.is("first", Due.told("r3,0;p0,0,1;p0,1,1;p0,1,1;p0,0,1;").doubles(1), 3);
+        DUE.is("side by side", Due.told("r3,0;p0,0,1;p0,1,1;p0,1,1;").doubles(1), 12);
         DUE.is("none", Due.told("r3,0;p0,0,1;p0,1,1;").doubles(0), 0);
         DUE.is("none", Due.told("r3,0;p0,0,1;p0,1,1;").doubles(1), NONE);
         DUE.is("what 2", x.doubles(2), BAD);
@@ -307,6 +310,8 @@ public final class ForetoldTest {
         y.bread(0, 1);
         DUE.is("hungry on the first day", y.hungry(1), 3);
         DUE.is("hungry till it is there", y.hungry(2), 2);
+        y.days(2);
+        DUE.is("from now on", y.hungry(1), 3);
         DUE.is("n 0", x.hungry(0), BAD);
         DUE.is("n 61", x.hungry(61), BAD);
     }

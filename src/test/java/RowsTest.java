@@ -9,6 +9,7 @@ public final class RowsTest {
         items();
         copies();
         overlaps();
+        lastRow();
         drops();
         status();
         DUE.end("RowsTest");
@@ -126,6 +127,20 @@ public final class RowsTest {
         y.drop(0);
         y.row(0, 0, 2);
         DUE.is("one in place of a dropped one, too", y.which(0, 0, 2), 1);
+    }
+
+    private static void lastRow() {
+        SwanDeeds x = Due.told("r2,0;p1,0,1;");
+        x.row(7, 2, 2);
+        x.row(0, 2, 2);
+        DUE.is("set", x.set(7, 0, 1), 1);
+        DUE.is("copy to it", x.copy(0, 0, 7, 1, 1), 1);
+        DUE.is("copy from it", x.copy(7, 0, 0, 0, 1), 1);
+        DUE.is("which", x.which(7, 0, 1), 1);
+        DUE.is("who", x.who(0, 1, 0, 7, 0, 1), 2);
+        DUE.is("a 8", x.copy(8, 0, 0, 0, 1), BAD);
+        DUE.is("b -1", x.copy(0, 0, -1, 0, 1), BAD);
+        DUE.is("drop", x.drop(7), 2);
     }
 
     private static void drops() {

@@ -134,6 +134,13 @@ public final class TapeTest {
         DUE.is("rows stay", x.count(0), 1);
         DUE.is("images stay", x.restore(1), 1);
         DUE.is("lawns of the image", x.count(1), 3);
+        x.weir(0, 0);
+        x.weir(1, 1);
+        x.days(3);
+        x.ahead(0, 9);
+        Due.tell(x, "r3,0;p0,0,1;");
+        DUE.is("DAY after what was foretold", x.count(3), 0);
+        DUE.is("weirs after what was foretold", x.count(5), 0);
         Due.feed(x, "r3,9;p9,0,1;");
         x.river();
         DUE.is("the latest fault", x.fault(), 2);
