@@ -99,6 +99,7 @@ final class BoundsOfAsks {
             .due("restore(0)", 1).due("count(3)", 2).due("count(5)", 1).due("swan(1, 2)", 5).places(1, 0).breadLies(0, 0, 0)
             .due("restore(1)", 1).due("count(3)", 5).due("count(5)", 0).due("swan(1, 2)", 9).due("lawn(2, 0)", 4).due("swan(0, 1)", 1)
             .due("kind(1)", 2).due("image(0)", 1).tell("r2,0;p0,0,1;").due("restore(0)", 1).due("count(3)", 5);
+        S.promise(34, "An IMAGE (0, 1) is kept of the RIVER: 1.").rich().due("image(0)", 1).due("image(1)", 1).due("image(1)", 1);
         S.promise(34, "BAD;").rich().bounded("image", Run.to(0, 1));
         S.promise(34, "BAD;").riverless().refused("image(-1)", BAD).refused("image(2)", BAD);
         S.promise(34, "STATE: no RIVER.").riverless().refused("image(0)", STATE).refused("image(1)", STATE);
@@ -111,11 +112,14 @@ final class BoundsOfAsks {
             .due("days(1)", 5).due("count(6)", 1).due("restore(0)", 1).due("count(3)", 0).due("count(6)", 0).refused("undo()", STATE)
             .due("restore(1)", 1).due("count(1)", 4).due("count(2)", 1).due("count(5)", 0).places(0).breadLies(2, 2, 2, 2)
             .due("restore(0)", 1).due("count(1)", 5);
+        S.promise(35, "The RIVER is as an IMAGE kept it (no ACT can be undone then): 1.").rich().due("restore(1)", 1).due("restore(0)", 1);
         S.promise(35, "BAD;").rich().bounded("restore", Run.to(0, 1));
         S.promise(35, "BAD;").riverless().refused("restore(-1)", BAD).refused("restore(2)", BAD);
         S.promise(35, "STATE: none was kept.").riverless().refused("restore(0)", STATE).refused("restore(1)", STATE);
         S.promise(35, "STATE: none was kept.").tell("r2,0;p0,0,1;").refused("restore(0)", STATE).due("image(1)", 1)
             .refused("restore(0)", STATE).due("restore(1)", 1);
+        S.promise(35, "STATE: none was kept.").tell("r2,0;o1,0,1;").row(0, 0, 1, 2).after("bread(1, 2)", "days(1)", "ask(0, 1)", "drop(9)")
+            .feed("r2,3;p1,").refused("restore(0)", STATE).refused("restore(1)", STATE).after("restore(0)", "restore(1)").due("undo()", 1);
         S.promise(35, "STATE: none was kept.").tell("r2,0;p0,0,1;").due("image(0)", 1).refused("restore(1)", STATE).due("restore(0)", 1);
     }
 
@@ -125,6 +129,7 @@ final class BoundsOfAsks {
             x.due("kind(" + swan + ")", 5 - swan);
         }
         x.after("as(0, 4)", "as(0, 0)").due("kind(0)", 5);
+        S.promise(36, "The KIND of a SWAN, as told (1 to 5).").rich().due("kind(0)", 1).due("kind(5)", 2);
         S.promise(36, "BAD.").rich().bounded("kind", Run.to(0, 5));
         S.promise(36, "BAD.").riverless().refused("kind(0)", BAD);
     }
@@ -132,6 +137,7 @@ final class BoundsOfAsks {
     private static void as() {
         S.promise(37, "A SWAN is taken as one of a KIND (0 .. 5): the SWAN's number.").tell(ALL).due("as(0, 0)", 0).due("as(4, 5)", 4)
             .due("as(4, 0)", 4).due("as(5, 1)", 5).due("kind(5)", 1).due("kind(4)", 5);
+        S.promise(37, "A SWAN is taken as one of a KIND (0 .. 5): the SWAN's number.").rich().due("as(4, 4)", 4).due("as(1, 1)", 1);
         S.promise(37, "BAD;").rich().bounded("as", Run.to(0, 5), Run.to(0, 5));
         S.promise(37, "BAD;").riverless().refused("as(0, 0)", BAD);
         S.promise(37, "KIND: it is no such one.").rich().refused("as(0, 2)", KIND).refused("as(0, 5)", KIND).refused("as(4, 1)", KIND)
@@ -140,6 +146,7 @@ final class BoundsOfAsks {
 
     private static void ask() {
         S.promise(38, "An ASK (0, 1) of a SWAN.").tell(ALL).due("ask(0, 0)", 17).due("ask(0, 1)", 8).due("ask(5, 0)", 6).due("ask(5, 1)", 5);
+        S.promise(38, "An ASK (0, 1) of a SWAN.").rich().due("ask(0, 0)", 5).due("ask(3, 0)", -98).due("ask(4, 0)", -188);
         S.promise(38, "BAD.").rich().bounded("ask", Run.to(0, 5), Run.to(0, 1));
         S.promise(38, "BAD.").riverless().refused("ask(0, 0)", BAD);
         Run x = S.promise(38, "THE TRACE is empty ahead of it").tell(ALL);

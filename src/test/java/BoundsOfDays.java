@@ -17,6 +17,7 @@ final class BoundsOfDays {
         fights();
         dayIsOneMore();
         actsKept();
+        actsChangeTheRiverAlone();
         eachActIsUndone();
         actsByWhichNothingBecomesAnother();
         undo();
@@ -187,6 +188,13 @@ final class BoundsOfDays {
         w.due("count(3)", 16).due("days(15)", 1).due("count(6)", 24).due("count(3)", 31);
         undoneAll(w, 24);
         w.due("count(3)", 7);
+    }
+
+    private static void actsChangeTheRiverAlone() {
+        String[] acts = {"days(1)", "bread(0, 1)", "weir(0, 1)", "weir(3, 0)", "frighten(0, 0)", "weight(0, 9)", "weight(0, 4)", "undo()"};
+        for (String act : acts) {
+            S.terms("a DAY; n CRUMBS are thrown on a LAWN (99 at most); a WEIR is built, or torn down;").rich().taken(act).taken("undo()");
+        }
     }
 
     private static void eachActIsUndone() {

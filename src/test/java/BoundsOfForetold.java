@@ -43,7 +43,7 @@ final class BoundsOfForetold {
             "which(0, 0, 4)", "hungry(60)", "sink(0, 0, 5, 0)", "sink(0, 4, 10, 1)", "drawn(60, 1, 0)", "drawn(60, 999999, 1)",
             "swan(0, 3)", "lawn(0, 3)", "count(4)", "kind(0)", "trace(0)", "fault()", "status()"};
         for (String call : calls) {
-            S.terms("FORETOLD (nothing changes).").rich().nothingBy(call);
+            S.terms("FORETOLD (nothing changes).").rich().taken(call);
         }
     }
 
@@ -259,7 +259,7 @@ final class BoundsOfForetold {
         S.promise(26, "BAD: alike, too.").rich().refused("meet(-1, 0)", BAD).refused("meet(6, 0)", BAD).refused("meet(0, -1)", BAD)
             .refused("meet(0, 6)", BAD).refused("meet(min, 0)", BAD).refused("meet(max, 0)", BAD).refused("meet(0, min)", BAD)
             .refused("meet(0, max)", BAD).refused("meet(0, 0)", BAD).refused("meet(5, 5)", BAD).refused("meet(6, 6)", BAD)
-            .nothingBy("meet(0, 5)").nothingBy("meet(5, 0)").due("meet(1, 1)", BAD);
+            .taken("meet(0, 5)").taken("meet(5, 0)").due("meet(1, 1)", BAD);
         S.promise(26, "BAD: alike, too.").riverless().refused("meet(0, 1)", BAD).refused("meet(0, 0)", BAD);
     }
 
@@ -358,13 +358,13 @@ final class BoundsOfForetold {
             .refused("who(0, max, 0, 0, 0, 1)", BAD).refused("who(0, min, 0, 0, 0, 1)", BAD).refused("who(0, 0, max, 0, 0, 1)", BAD)
             .refused("who(0, 0, min, 0, 0, 1)", BAD).refused("who(0, 0, 0, max, 0, 1)", BAD).refused("who(0, 0, 0, min, 0, 1)", BAD)
             .refused("who(0, 0, 0, 0, 0, max)", BAD).refused("who(0, 0, 0, 0, 0, min)", BAD).refused("who(0, 0, 0, 3, 0, 13)", BAD)
-            .nothingBy("who(5, 2, 5, 0, 0, 1)").nothingBy("who(5, 2, 5, 7, 0, 1)").nothingBy("who(0, 1, 5, 2, 0, 5)");
+            .taken("who(5, 2, 5, 0, 0, 1)").taken("who(5, 2, 5, 7, 0, 1)").taken("who(0, 1, 5, 2, 0, 5)");
         S.promise(29, "BAD: SWAN, which, OTHER, ROW, n;").riverless().refused("who(0, 0, 0, 0, 0, 1)", BAD).refused("who(0, 0, 0, 3, 0, 1)", BAD);
         S.promise(29, "NULL;").rich().refused("who(0, 0, 0, 3, 0, 1)", NULL).refused("who(0, 0, 0, 6, -1, 1)", NULL);
         S.promise(29, "PLACE.").rich().refused("who(0, 0, 0, 0, -1, 1)", PLACE).refused("who(0, 0, 0, 0, 0, 5)", PLACE)
             .refused("who(0, 0, 0, 0, 4, 1)", PLACE).refused("who(0, 0, 0, 0, 3, 2)", PLACE).refused("who(0, 0, 0, 0, max, 1)", PLACE)
             .refused("who(0, 0, 0, 0, max, 12)", PLACE).refused("who(0, 0, 0, 0, min, 1)", PLACE).refused("who(0, 0, 0, 5, 0, 1)", PLACE)
-            .nothingBy("who(0, 0, 0, 0, 0, 4)").nothingBy("who(0, 0, 0, 0, 3, 1)");
+            .taken("who(0, 0, 0, 0, 0, 4)").taken("who(0, 0, 0, 0, 3, 1)");
     }
 
     private static void which() {
@@ -377,13 +377,13 @@ final class BoundsOfForetold {
         S.promise(30, "BAD: ROW, n;").rich()
             .refused("which(-1, 0, 1)", BAD).refused("which(8, 0, 1)", BAD).refused("which(min, 0, 1)", BAD).refused("which(max, 0, 1)", BAD)
             .refused("which(0, 0, 0)", BAD).refused("which(0, 0, 13)", BAD).refused("which(0, 0, min)", BAD).refused("which(0, 0, max)", BAD)
-            .refused("which(3, 0, 13)", BAD).nothingBy("which(0, 0, 1)").nothingBy("which(7, 0, 1)").nothingBy("which(2, 0, 5)");
+            .refused("which(3, 0, 13)", BAD).taken("which(0, 0, 1)").taken("which(7, 0, 1)").taken("which(2, 0, 5)");
         S.promise(30, "STATE: no RIVER (ahead of BAD);").riverless().refused("which(0, 0, 1)", STATE).refused("which(8, 0, 1)", STATE)
             .refused("which(0, 0, 13)", STATE).refused("which(3, 0, 1)", STATE).refused("which(0, -1, 1)", STATE);
         S.promise(30, "NULL;").rich().refused("which(3, 0, 1)", NULL).refused("which(6, 40, 12)", NULL);
         S.promise(30, "PLACE.").rich().refused("which(0, -1, 1)", PLACE).refused("which(0, 0, 5)", PLACE).refused("which(0, 4, 1)", PLACE)
             .refused("which(0, 3, 2)", PLACE).refused("which(0, max, 1)", PLACE).refused("which(0, max, 12)", PLACE)
-            .refused("which(0, min, 1)", PLACE).refused("which(5, 0, 1)", PLACE).nothingBy("which(0, 0, 4)").nothingBy("which(0, 3, 1)");
+            .refused("which(0, min, 1)", PLACE).refused("which(5, 0, 1)", PLACE).taken("which(0, 0, 4)").taken("which(0, 3, 1)");
     }
 
     private static void hungry() {

@@ -58,6 +58,8 @@ final class BoundsOfRows {
         S.terms("of several the first in time:").rich()
             .refused("set(3, -1, 0)", NULL).refused("copy(3, -1, 0, 0, 1)", NULL).refused("copy(0, 0, 3, 9, 1)", NULL)
             .refused("who(0, 0, 0, 3, -1, 1)", NULL).refused("which(3, -1, 1)", NULL)
+            .refused("copy(3, 0, 1, 0, 1)", NULL).refused("copy(3, 0, 2, 0, 1)", NULL).refused("copy(1, 0, 3, 0, 1)", NULL)
+            .refused("copy(2, 0, 3, 0, 1)", NULL).after("drop(7)").refused("copy(7, 0, 0, 0, 1)", NULL).refused("copy(0, 0, 7, 0, 1)", NULL)
             .after("drop(3)").refused("copy(0, -1, 1, 0, 1)", STORE).refused("copy(0, 0, 1, 9, 1)", STORE)
             .refused("copy(0, 0, 1, 0, -1)", STORE).refused("copy(0, 0, 5, 0, 1)", STORE);
     }

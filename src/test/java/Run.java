@@ -67,6 +67,8 @@ final class Run {
     private final Due due;
     private final String sentence;
     private final List<Call> calls = new ArrayList<>();
+    private Look twin;
+    private int twinCalls;
 
     Run(Due due, String sentence) {
         this.due = due;
@@ -118,8 +120,8 @@ final class Run {
     Run settled() {
         tell("r1,0;").tell("r4,2;b0,3,2;").after("image(1)");
         tell("r5,1;p2,0,4;c1,1,5;y3,2,3;o4,3,2;b0,4,6;c3,4,7;");
-        after("weir(3, 1)", "image(0)", "bread(1, 9)", "days(2)", "weight(1, 8)", "ask(4, 1)");
-        return rows();
+        after("weir(3, 1)", "image(0)", "bread(1, 9)", "days(2)", "weight(1, 8)");
+        return rows().after("ask(4, 1)");
     }
 
     /** That, and a tape that is half a river. */
@@ -134,7 +136,7 @@ final class Run {
 
     /** On the last day: a tape, a lawn and acts to which nothing can come any more. */
     Run full() {
-        tell("r1,0;").tell("r2,0;o1,0,1;");
+        tell("r1,0;").tell("r2,0;o1,0,1;").row(0, 0, 1, 2).after("image(1)");
         for (int i = 0; i < 41; i++) {
             after("days(24)");
         }
@@ -158,8 +160,8 @@ final class Run {
         return this;
     }
 
-    /** Whatever the answer, so long as it is no refusal: nothing changes but, by a row, the status. */
-    Run nothingBy(String text) {
+    /** Whatever the answer, so long as it is no refusal: nothing changes but what the document says. */
+    Run taken(String text) {
         Call call = Call.of(text);
         long answer = call.on(again());
         is(text + " is refused, or found", answer >= FOUND - 5 && answer < SwanDeeds.NONE ? 1 : 0, 0);
@@ -273,16 +275,22 @@ final class Run {
     }
 
     private void hear(Call call, long answer, Set<Look.Part> changes) {
-        SwanDeeds heard = again();
-        is(call.text(), call.on(heard), answer);
-        Look look = Look.at(heard);
-        Look twin = Look.at(again());
+        is(call.text(), call.on(again()), answer);
+        Look look = Look.at(() -> {
+            SwanDeeds heard = again();
+            call.on(heard);
+            return heard;
+        });
+        if (twin == null || twinCalls != calls.size()) {
+            twin = Look.at(this::again);
+            twinCalls = calls.size();
+        }
         for (Look.Part part : Look.Part.values()) {
             if (!changes.contains(part)) {
                 is(part + " is another behind " + call.text(), look.of(part).equals(twin.of(part)) ? 0 : 1, 0);
             }
         }
-        if (calls.size() + 1 + look.calls() > MOST_CALLS) {
+        if (calls.size() + 1 + Math.max(look.calls(), twin.calls()) > MOST_CALLS) {
             throw new IllegalStateException("a run is longer than an object is good for: " + sentence);
         }
     }
