@@ -17,6 +17,7 @@ final class BoundsOfDays {
         fights();
         dayIsOneMore();
         actsKept();
+        actsChangeNothingElse();
         actsChangeTheRiverAlone();
         eachActIsUndone();
         actsByWhichNothingBecomesAnother();
@@ -188,6 +189,33 @@ final class BoundsOfDays {
         w.due("count(3)", 16).due("days(15)", 1).due("count(6)", 24).due("count(3)", 31);
         undoneAll(w, 24);
         w.due("count(3)", 7);
+    }
+
+    /** All of a river of two swans on two lawns. */
+    private static void riverIs(Run x, int day, int weirs, int[] crumbs, int[] places, int[] weights) {
+        x.due("count(3)", day).due("count(5)", weirs).breadLies(crumbs).places(places)
+            .due("swan(0, 2)", weights[0]).due("swan(1, 2)", weights[1]).due("swan(0, 1)", 1).due("swan(1, 1)", 0)
+            .due("kind(0)", 4).due("kind(1)", 3);
+    }
+
+    private static void actsChangeNothingElse() {
+        String quote = "a SWAN is frightened onto a LAWN beside its own that no WEIR bars; WEIGHT of one is another.";
+        Run x = S.terms(quote).tell("r2,3;o0,1,4;y1,0,5;").due("days(1)", 2);
+        riverIs(x, 1, 0, new int[] {2, 2}, new int[] {0, 1}, new int[] {4, 5});
+        x.due("frighten(0, 1)", 1);
+        riverIs(x, 1, 0, new int[] {2, 2}, new int[] {1, 1}, new int[] {4, 5});
+        x.due("frighten(1, 0)", 0);
+        riverIs(x, 1, 0, new int[] {2, 2}, new int[] {1, 0}, new int[] {4, 5});
+        x.due("weight(1, 8)", 5);
+        riverIs(x, 1, 0, new int[] {2, 2}, new int[] {1, 0}, new int[] {4, 8});
+        x.due("weir(0, 1)", 1);
+        riverIs(x, 1, 1, new int[] {2, 2}, new int[] {1, 0}, new int[] {4, 8});
+        x.due("bread(0, 7)", 9);
+        riverIs(x, 1, 1, new int[] {9, 2}, new int[] {1, 0}, new int[] {4, 8});
+        x.due("weir(0, 0)", 0);
+        riverIs(x, 1, 0, new int[] {9, 2}, new int[] {1, 0}, new int[] {4, 8});
+        x.due("undo()", 6);
+        riverIs(x, 1, 1, new int[] {9, 2}, new int[] {1, 0}, new int[] {4, 8});
     }
 
     private static void actsChangeTheRiverAlone() {

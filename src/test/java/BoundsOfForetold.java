@@ -45,6 +45,9 @@ final class BoundsOfForetold {
         for (String call : calls) {
             S.terms("FORETOLD (nothing changes).").rich().taken(call);
         }
+        // what is kept, and another river, on which all swans come to be on one lawn
+        S.terms("FORETOLD (nothing changes).").settled().tell("r3,0;o2,0,1;o0,0,1;").after("bread(2, 1)").feed("r2,3;p1,")
+            .due("evening()", 3).due("meet(0, 1)", 3).due("moves(0)", 2).due("hold(0, 1)", 10);
     }
 
     private static void ahead() {
