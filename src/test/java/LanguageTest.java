@@ -1,13 +1,18 @@
 import java.io.IOException;
 import java.nio.file.Files;
 import java.nio.file.Path;
+import java.util.HashMap;
+import java.util.HashSet;
 import java.util.List;
+import java.util.Map;
+import java.util.Set;
 import java.util.regex.Matcher;
 import java.util.regex.Pattern;
 
 /** Those rules of LANGUAGE.md that can be told from the text of the program. */
 public final class LanguageTest {
     private static final Due DUE = new Due();
+    private static final Pattern CALL = Pattern.compile("(?<!new )\\b(\\w+)\\(");
     private static final Pattern METHOD = Pattern.compile("(?m)^( +)(?:(?:public|private|static) )*[\\w\\[\\]]+ (\\w+)\\(([^)]*)\\) \\{$");
 
     public static void main(String[] args) throws IOException {
@@ -44,6 +49,7 @@ public final class LanguageTest {
 
     private static void methods(String code) {
         Matcher method = METHOD.matcher(code);
+        Map<String, StringBuilder> bodies = new HashMap<>();
         int methods = 0;
         while (method.find()) {
             methods++;
@@ -53,7 +59,33 @@ public final class LanguageTest {
             int end = code.indexOf("\n" + method.group(1) + "}\n", method.end());
             long lines = code.substring(method.start(), end).lines().count();
             DUE.is("too many lines of " + name, lines > 60 ? 1 : 0, 0);
+            bodies.computeIfAbsent(name, key -> new StringBuilder()).append(code, method.end(), end);
         }
         DUE.is("methods that were not seen", methods < 100 ? 1 : 0, 0);
+        Map<String, Integer> depths = new HashMap<>();
+        for (String name : bodies.keySet()) {
+            DUE.is("more than eight deep: " + name, depth(name, bodies, depths, new HashSet<>()) > 8 ? 1 : 0, 0);
+        }
+    }
+
+    /** How deep calls go from one on, the library's too. Methods of one name are taken as one, so it may be less, never more. */
+    private static int depth(String name, Map<String, StringBuilder> bodies, Map<String, Integer> depths, Set<String> open) {
+        if (!bodies.containsKey(name)) {
+            return 1;
+        }
+        if (!open.add(name)) {
+            DUE.is("calls itself: " + name, 1, 0);
+            return 1;
+        }
+        if (!depths.containsKey(name)) {
+            int deepest = 0;
+            Matcher call = CALL.matcher(bodies.get(name));
+            while (call.find()) {
+                deepest = Math.max(deepest, depth(call.group(1), bodies, depths, open));
+            }
+            depths.put(name, deepest + 1);
+        }
+        open.remove(name);
+        return depths.get(name);
     }
 }
